@@ -303,7 +303,7 @@ public final class PromiseTest {
 
     private void lawsRead() {
         for (String text : new String[] {"1", "9999", "0000", "t", "w", "o", "s", "y", "d", "!t", "-t", "(t)",
-            "1<2", "1=2", "1>2", "1|2|3&4&5", "1+2-3*4/5%6", "1--1", "1-!1", "((((((1))))))", "!!!!!!1", "-(-(-(1)))", "!(-(!(1)))",
+            "1<2", "1=2", "1>2", "1|2|3&4&5", "1+2-3*4/5%6", "1--1", "1-!1", "((((((1))))))", "!!!!!!1", "-(-(-(1)))", "1?((((((1))))))", "((((((1))))))?1", "!(-(!(1)))",
             "(1<2)<3", "1<2|3<4", "1<2&3<4", "t?1", "t?1;2", "1;2;3", "1<2?3<4;5<6?7<8", "(1)-(2)", "(!t)+(!t)",
             "------1*------1"}) {
             fresh();
@@ -406,6 +406,9 @@ public final class PromiseTest {
         due("9 along", x.way(22, 0), 11);
         due("9 first STEP", x.way(22, 1), 2);
         due("9 round", x.way(1, 0), 2);
+        x.mend(0, ROUND, 1);
+        due("9 round in a minute", x.way(1, 0), 1);
+        x.mend(0, ROUND, 2);
         due("9 round the far end", x.way(2223, 0), 2);
         due("9 first STEP of like ones the least", x.way(1011, 1), 8);
         due("9 a pair below 0", x.way(-1, 0), BAD);
@@ -757,6 +760,16 @@ public final class PromiseTest {
         due("24 the first is ended", x.bricks(20, 2), 0);
         due("24 lent stays", x.bricks(12, 1), 7);
         due("24 owing stays", x.bricks(2, 0), -7);
+        fresh();
+        // 0 2 3 and 1 2 3 share 2 to 3: the one with the least a comes first
+        x.lend(2, 3);
+        x.lend(23, 3);
+        x.lend(30, 3);
+        x.lend(31, 3);
+        x.lend(12, 3);
+        due("24 the first ring is taken off", x.bricks(2, 2), 0);
+        due("24 the second has none left to share", x.bricks(12, 2), 3);
+        due("24 the second has none left to share", x.bricks(31, 2), 3);
         // downward: 5 to 4 to 3 to 5
         x.lend(54, 2);
         x.lend(43, 3);
@@ -817,6 +830,14 @@ public final class PromiseTest {
         due("26 in four round the end", x.where(0, 11, 1), 1);
         due("26 not yet", x.where(0, 10, 1), 0);
         due("26 all", x.where(0, 9999, -1), 24);
+        shorts(0, 4, 7);
+        due("26 one two", x.where(0, 7, 4), 1);
+        due("26 one two", x.where(0, 7, -1), 1);
+        shorts(0, 0, 5, 4, 7, 10, 20);
+        due("26 three twos", x.where(0, 20, 10), 1);
+        due("26 three twos", x.where(0, 20, -1), 1);
+        due("26 three twos", x.where(0, 19, 10), STATE);
+        shorts(0, 0, 5, 4, 7);
         due("26 less than the last one", x.where(0, 6, -1), STATE);
         shorts(0, 0, 5, 4, 6);
         due("26 not ONE MAN", x.where(0, 100, -1), 0);
@@ -1010,6 +1031,19 @@ public final class PromiseTest {
             due("35 redo", x.redo(), i);
         }
         due("35 all again", x.of(3, WARM), 37);
+        fresh();
+        for (int i = 0; i < 50; i++) {
+            x.mend(i % 25, WARM, i);
+        }
+        for (int i = 49; i >= 10; i--) {
+            due("34 undo", x.undo(), i - 10);
+            due("34 each as it was before " + i, x.of(i % 25, WARM), i < 25 ? 50 : i - 25);
+        }
+        due("34 forgotten", x.of(9, WARM), 9);
+        for (int i = 10; i < 50; i++) {
+            due("35 redo", x.redo(), 49 - i);
+            due("35 each again " + i, x.of(i % 25, WARM), i);
+        }
         fresh();
         x.hole(0);
         x.lane(1);
