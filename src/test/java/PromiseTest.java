@@ -25,6 +25,7 @@ public final class PromiseTest {
         lawsFaulty();
         lawsWorkedOut();
         waysAndFar();
+        waysOfAll();
         reaching();
         widestAndDig();
         sparing();
@@ -380,6 +381,7 @@ public final class PromiseTest {
         // 65536 * 32768 is 2 to the 31st: it wraps to the least int
         step("2048*32*4096*8<0?21;22", 21);
         step("-(2048*32*4096*8)<0?21;22", 21);
+        step("0?0;".repeat(29) + "!0+7", 8);
         fresh();
         lawOf("d?3;5");
         due("8 upward", x.way(2, 0), 3);
@@ -449,6 +451,23 @@ public final class PromiseTest {
         due("10 BAD place", x.far(-1, 0), BAD);
         due("10 BAD what", x.far(0, 3), BAD);
         due("10 BAD what", x.far(0, -1), BAD);
+    }
+
+    private void waysOfAll() {
+        longAs(30);
+        for (int i = 0; i < 12; i++) {
+            x.hole(i + 1);
+            x.mend(i, DEEP, 9);
+            x.lane(100 * i + 40 + i);
+            x.mend(i, WIDE, 9);
+        }
+        x.mend(0, ROUND, 1);
+        x.mend(1, ROUND, 1);
+        due("9 every STEP that there can be, the first end", x.way(1, 0), 1);
+        due("9 and the last one", x.way(5958, 0), 1);
+        due("9 either way", x.way(5859, 0), 1);
+        due("9 and the last LANE", x.way(1151, 0), 9);
+        due("9 and the last HOLE", x.way(2425, 0), 9);
     }
 
     private void reaching() {
@@ -699,6 +718,13 @@ public final class PromiseTest {
         due("22 less warm than the other", x.tax(0), 6);
         x.mend(0, WARM, 51);
         due("22 at an end", x.tax(0), 9);
+        x.mend(1, OWNER, 3);
+        x.mend(2, WARM, 40);
+        due("22 less warm than the first one", x.tax(3), 3);
+        x.mend(10, OWNER, 4);
+        x.mend(9, WARM, 40);
+        x.mend(11, WARM, 50);
+        due("22 as warm as the last one", x.tax(4), 3);
         x.mend(12, WARM, 99);
         x.mend(11, WARM, 51);
         due("22 at the last one", x.tax(5), 6);
@@ -806,6 +832,8 @@ public final class PromiseTest {
         x.mend(0, ROUND, 0);
         x.mend(1, ROUND, 0);
         due("25 no WAY", x.oneMan(0), 1);
+        shorts(0, 0, 0, 1, 9999);
+        due("25 no WAY however long", x.oneMan(0), 1);
         due("25 nothing", x.oneMan(1), -11);
         due("25 shelf", x.oneMan(6), BAD);
         due("25 shelf", x.oneMan(-1), BAD);
@@ -1033,16 +1061,17 @@ public final class PromiseTest {
         due("35 all again", x.of(3, WARM), 37);
         fresh();
         for (int i = 0; i < 50; i++) {
-            x.mend(i % 25, WARM, i);
+            x.mend(i % 30, i % 3 == 0 ? THICK : WARM, i % 3 != 0 ? i : i < 30 ? 8 : 9);
         }
         for (int i = 49; i >= 10; i--) {
             due("34 undo", x.undo(), i - 10);
-            due("34 each as it was before " + i, x.of(i % 25, WARM), i < 25 ? 50 : i - 25);
+            int before = i % 3 == 0 ? i >= 30 ? 8 : 4 : i >= 30 ? i - 30 : 50;
+            due("34 each as it was before " + i, x.of(i % 30, i % 3 == 0 ? THICK : WARM), before);
         }
-        due("34 forgotten", x.of(9, WARM), 9);
+        due("34 forgotten", x.of(9, THICK), 8);
         for (int i = 10; i < 50; i++) {
             due("35 redo", x.redo(), 49 - i);
-            due("35 each again " + i, x.of(i % 25, WARM), i);
+            due("35 each again " + i, x.of(i % 30, i % 3 == 0 ? THICK : WARM), i % 3 != 0 ? i : i < 30 ? 8 : 9);
         }
         fresh();
         x.hole(0);
