@@ -54,7 +54,7 @@ public final class OneWall {
 
     public int yards(int shelf, int i, int yn) {
         int first = yn / 100, n = yn % 100;
-        if (!Shelves.has(shelf) || i < 0 || yn < 0 || first >= Wall.MOST_YARDS || n < 1 || n > Wall.MOST_YARDS) {
+        if (!Shelves.has(shelf) || yn < 0 || first >= Wall.MOST_YARDS || n < 1 || n > Wall.MOST_YARDS) {
             return BAD;
         }
         if (shelves.isEmpty(shelf)) {
@@ -542,7 +542,7 @@ public final class OneWall {
 
     /** A YARD's three numbers are looked at before the first is taken: a YARD comes whole or not at all. */
     private boolean takeYard(int shelf, long i, int yard) {
-        if (yard >= Wall.MOST_YARDS || i + 3 > shelves.sizeOf(shelf)) {
+        if (yard >= Wall.MOST_YARDS || i < 0 || i + 3 > shelves.sizeOf(shelf)) {
             return false;
         }
         for (int what = Wall.THICK; what <= Wall.OWNER; what++) {
@@ -1377,8 +1377,10 @@ public final class OneWall {
             return minutes < Ways.NONE && minutes <= left;
         }
 
+        /** The last two may lack its end, or there may be none: then it is 0, than which no minute is less. */
         static int lastMinute(Shelves shelves, int shelf) {
-            return (int) shelves.get(shelf, shelves.sizeOf(shelf) / 2 * 2 - 1);
+            int size = shelves.sizeOf(shelf);
+            return size % 2 == 0 ? (int) shelves.get(shelf, size - 1) : 0;
         }
 
         static int lastPlace(Shelves shelves, int shelf) {

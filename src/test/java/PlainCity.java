@@ -127,13 +127,13 @@ public final class PlainCity {
     }
 
     public int yards(int shelf, int i, int yn) {
-        if (shelf < 0 || shelf > 5 || i < 0 || yn < 0 || yn / 100 > 29 || yn % 100 < 1 || yn % 100 > 30) return BAD;
+        if (shelf < 0 || shelf > 5 || yn < 0 || yn / 100 > 29 || yn % 100 < 1 || yn % 100 > 30) return BAD;
         if (shelves[shelf] == null) return 0;
         if (!(shelves[shelf] instanceof Row r) || r.sort != 0) return -12;
         int so = 0;
         for (long at = i; so < yn % 100; at += 3) {
             int y = yn / 100 + so;
-            if (y > 29 || at + 2 >= r.elements.length) break;
+            if (y > 29 || at < 0 || at + 2 >= r.elements.length) break;
             long t = r.elements[(int) at], w = r.elements[(int) at + 1], o = r.elements[(int) at + 2];
             if (!fits(0, t) || !fits(1, w) || !fits(2, o)) break;
             mend(y, 0, (int) t);
@@ -536,7 +536,7 @@ public final class PlainCity {
         if (refused(shelf) != 0) return refused(shelf);
         long[] r = ((Row) shelves[shelf]).elements;
         int twos = r.length / 2;
-        if (twos > 0 && m < r[2 * twos - 1]) return STATE;
+        if (twos > 0 && r.length == 2 * twos && m < r[2 * twos - 1]) return STATE;
         if (oneMan(shelf) != NOT) return 0;
         int many = 0;
         for (int p = 0; p < 2 * longNow; p++) {

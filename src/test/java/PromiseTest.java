@@ -20,6 +20,7 @@ public final class PromiseTest {
         mendingRefused();
         yardsFromRows();
         yardsRefused();
+        yardsFromNoPlace();
         tape();
         lawsRead();
         lawsFaulty();
@@ -39,6 +40,7 @@ public final class PromiseTest {
         rings();
         oneMan();
         where();
+        whereNotOneMan();
         drawn();
         going();
         digging();
@@ -271,7 +273,6 @@ public final class PromiseTest {
         due("6 n 31", x.yards(0, 0, 31), BAD);
         due("6 y 30", x.yards(0, 0, 3001), BAD);
         due("6 yn -1", x.yards(0, 0, -1), BAD);
-        due("6 i -1", x.yards(0, -1, 1), BAD);
         due("6 BAD ahead of missing", x.yards(1, 0, 0), BAD);
         x.row(1, 1, 3);
         due("6 shorts", x.yards(1, 0, 1), -12);
@@ -280,6 +281,26 @@ public final class PromiseTest {
         due("6 a BRICK", x.yards(1, 0, 1), -12);
         x.keep(1, -1);
         due("6 nothing again", x.yards(1, 0, 1), 0);
+    }
+
+    /** No bounds are told for the place i: it is never BAD, the row only ends there. */
+    private void yardsFromNoPlace() {
+        fresh();
+        for (int i : new int[] {-1, -2, -3, -4, 3, Integer.MIN_VALUE, Integer.MAX_VALUE}) {
+            due("6 missing, from " + i, x.yards(0, i, 1), 0);
+        }
+        bytes(0, 3, 40, 0, 5, 20, 1);
+        for (int i : new int[] {-1, -2, -3, -4, 6, 7, Integer.MIN_VALUE, Integer.MAX_VALUE}) {
+            due("6 ends ahead of its first YARD, from " + i, x.yards(0, i, 3), 0);
+        }
+        due("6 nothing of it", x.count(3), 0);
+        due("6 n 0 from -1", x.yards(0, -1, 0), BAD);
+        due("6 shelf 6 from -1", x.yards(6, -1, 1), BAD);
+        x.row(1, 1, 3);
+        due("6 shorts from -1", x.yards(1, -1, 1), -12);
+        x.body(0);
+        x.keep(1, 0);
+        due("6 a BRICK from -1", x.yards(1, -1, 1), -12);
     }
 
     // ---- 7, 8: the tape and the law
@@ -886,6 +907,27 @@ public final class PromiseTest {
         x.mend(1, ROUND, 0);
         due("26 no WAY to the other SIDE", x.where(2, 9999, -1), 12);
         due("26 no WAY to the other SIDE", x.where(2, 9999, 1), 0);
+    }
+
+    private void whereNotOneMan() {
+        fresh();
+        shorts(0, 0, 5, 4);
+        due("26 the end lacks, so no minute is less", x.where(0, 0, -1), 0);
+        due("26 the end lacks, so no minute is less", x.where(0, 4, 0), 0);
+        shorts(0, 0, 2, 0);
+        due("26 the end lacks, so no minute is less", x.where(0, 0, 0), 0);
+        shorts(0, 3);
+        due("26 one whose end lacks", x.where(0, 0, -1), 0);
+        shorts(0, 0, 5, 4, 6);
+        due("26 less than the last one, not ONE MAN either", x.where(0, 5, -1), STATE);
+        shorts(0, 99, 6);
+        due("26 less than the last one of no PLACE", x.where(0, 5, -1), STATE);
+        due("26 the last one of no PLACE", x.where(0, 6, -1), 0);
+        shorts(0, 0, -5);
+        due("26 a minute below 0", x.where(0, 0, -1), 0);
+        due("26 a minute below 0", x.where(0, 0, 0), 0);
+        shorts(0, 0, 10000);
+        due("26 a minute above 9999", x.where(0, 9999, -1), STATE);
     }
 
     private void drawn() {

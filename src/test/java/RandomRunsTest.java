@@ -163,6 +163,8 @@ public final class RandomRunsTest {
             case "lend0": case "bricks0": return draw.nextInt(4) == 0 ? draw.nextInt(6) : owners();
             case "lend1": return draw.nextInt(199) - 70;
             case "bricks1": return draw.nextInt(3);
+            case "yards1": return draw.nextInt(draw.nextBoolean() ? 4 : 20) - 3;
+            case "where1": return draw.nextInt(draw.nextBoolean() ? 20 : 200);
             case "where2": return draw.nextBoolean() ? -1 : place();
             case "drawn1": return draw.nextInt();
             case "drawn2": return 1 + draw.nextInt(draw.nextBoolean() ? 9 : 200);
