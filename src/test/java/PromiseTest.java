@@ -1,13 +1,5 @@
 /** Each promise of the document by hand: ordinary inputs, the edges that it names, wrong inputs. */
-public final class PromiseTest {
-    private static final int THICK = 0, WARM = 1, OWNER = 2, OPEN = 3, DEEP = 4, LANE_OPEN = 5, WIDE = 6, ROUND = 7;
-    private static final int LONG = 8, TELLS = 9, COLD = 10, RATE = 11;
-    private static final int BAD = -1, NOT = -2, FULL = -3, STATE = -5, VOID = -2000000000;
-    private static final long NONE = Long.MIN_VALUE;
-
-    private final Check check = new Check();
-    private OneWall x;
-
+public final class PromiseTest extends Trial {
     public static void main(String[] args) {
         new PromiseTest().test();
     }
@@ -54,42 +46,6 @@ public final class PromiseTest {
         taking();
         counting();
         check.end();
-    }
-
-    private void due(String call, long got, long want) {
-        check.due(call, got, want);
-    }
-
-    private OneWall fresh() {
-        x = new OneWall();
-        return x;
-    }
-
-    private OneWall longAs(int yards) {
-        fresh().mend(0, LONG, yards);
-        return x;
-    }
-
-    /** A law by its text: what law() answers. */
-    private int lawOf(String text) {
-        for (int i = 0; i < text.length(); i++) {
-            x.feed(text.charAt(i));
-        }
-        return x.law();
-    }
-
-    private void shorts(int shelf, int... values) {
-        x.row(shelf, 1, values.length);
-        for (int i = 0; i < values.length; i++) {
-            x.put(shelf, i, values[i]);
-        }
-    }
-
-    private void bytes(int shelf, int... values) {
-        x.row(shelf, 0, values.length);
-        for (int i = 0; i < values.length; i++) {
-            x.put(shelf, i, values[i]);
-        }
     }
 
     // ---- 1: a new object

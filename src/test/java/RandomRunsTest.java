@@ -8,7 +8,8 @@ import java.util.Random;
 
 /** Runs of drawn calls (by fixed seeds), each answered by OneWall and by PlainCity. */
 public final class RandomRunsTest {
-    private static final int RUNS = 500, CALLS = 400;
+    /** The document promises nothing behind an object's 512th call. */
+    private static final int RUNS = 600, MOST_CALLS = 512, LONGEST_LAW = 120;
     private static final int[] ODD = {-1, -2, 0, 1, 2, 6, 7, 12, 24, 30, 31, 60, 61, 99, 100, 120, 999, 1000, 2999, 9999,
         10000, Integer.MAX_VALUE, Integer.MIN_VALUE, Integer.MAX_VALUE - 1, -100, -101, 200, 201};
     private static final String LETTERS = "twosyd0123456789()!-+*/%<=>&|?;";
@@ -45,9 +46,9 @@ public final class RandomRunsTest {
             some.remove(draw.nextInt(some.size()));
         }
         StringBuilder told = new StringBuilder();
-        for (int i = 0; i < CALLS; i++) {
-            if (draw.nextInt(25) == 0) {
-                feedLaw(wall);
+        for (int i = 0; i < MOST_CALLS; i++) {
+            if (draw.nextInt(25) == 0 && i + LONGEST_LAW + 1 < MOST_CALLS) {
+                i += feedLaw(wall);
             }
             Method m = some.get(draw.nextInt(some.size()));
             Object[] args = argsFor(m);
@@ -74,8 +75,8 @@ public final class RandomRunsTest {
         return ((Number) m.invoke(on, args)).longValue();
     }
 
-    /** A text that is mostly sound, so that the law is often changed and faults come deep in it. */
-    private void feedLaw(OneWall wall) {
+    /** A text that is mostly sound, so that the law is often changed and faults come deep in it: how many calls. */
+    private int feedLaw(OneWall wall) {
         StringBuilder text = new StringBuilder();
         int lines = 1 + draw.nextInt(3);
         for (int i = 0; i < lines; i++) {
@@ -90,10 +91,12 @@ public final class RandomRunsTest {
         if (draw.nextInt(10) == 0) {
             text.setLength(draw.nextInt(text.length() + 1));
         }
+        text.setLength(Math.min(text.length(), LONGEST_LAW));
         for (int i = 0; i < text.length(); i++) {
             check.due("feed of " + text, wall.feed(text.charAt(i)), plain.feed(text.charAt(i)));
         }
         check.due("law of " + text, wall.law(), plain.law());
+        return text.length() + 1;
     }
 
     private String sound(int depth) {
