@@ -328,6 +328,9 @@ public final class EdgesOfDeedsTest extends Trial {
         due("one STEP only, there", x.drawn(0, 5, 199, 0), 2);
         due("two PLACES", x.drawn(0, 5, 200, 1), 2);
         due("two PLACES in one step", x.drawn(0, 5, 1, 1), 2);
+        parted(30);
+        due("one STEP from the last PLACE", x.drawn(59, 5, 1, 0), 57);
+        due("two PLACES of sixty", x.drawn(59, 5, 1, 1), 2);
     }
 
     // ---- go, dig, turn

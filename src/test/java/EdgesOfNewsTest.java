@@ -298,6 +298,14 @@ public final class EdgesOfNewsTest extends Trial {
         due("never", x.frozen(0), NOT);
         x.mend(12, WARM, 0);
         due("one beyond LONG never", x.frozen(0), NOT);
+        longAs(30);
+        due("thirty YARDS, a degree a night", x.frozen(1), 50);
+        due("the last of them, too", x.frost(50, 29), 0);
+        due("warm still the night before", x.frost(49, 29), 1);
+        x.mend(0, COLD, 0);
+        due("thirty YARDS, never", x.frozen(0), NOT);
+        x.mend(29, WARM, 0);
+        due("the last of thirty now", x.frozen(0), 29);
     }
 
     // ---- taxes

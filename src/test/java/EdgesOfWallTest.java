@@ -782,6 +782,13 @@ public final class EdgesOfWallTest extends Trial {
         works("t=5?5;6", 6);
         works("0?5;-1?6", 6);
         works("0?5;0;7", 1);
+        parted(2);
+        String[] laws = {"0?1;0?2;0?3;7", "0?1;0?2;0?3;8", "0?5", "0?6"};
+        int[] minutes = {7, 8, 1, 1};
+        for (int i = 0; i < laws.length; i++) {
+            lawOf(laws[i]);
+            due("no LINE of a law before counts in " + laws[i], x.way(2, 0), minutes[i]);
+        }
     }
 
     private void faultsByPlace() {

@@ -98,6 +98,11 @@ public final class EdgesOfWaysTest extends Trial {
         due("from the other SIDE", x.way(302, 1), 1);
         x.lane(204);
         due("a LANE to where one goes anyway", x.way(204, 1), 4);
+        parted(12);
+        due("another PLACE is as far, with a lesser STEP", x.way(1410, 1), 12);
+        due("that one's", x.way(610, 1), 8);
+        x.lane(204);
+        due("not the LANE of another PLACE", x.way(4, 1), 2);
         parted(4);
         lawOf("2");
         x.lane(4);
